@@ -20,7 +20,7 @@ public final class PlainGeometry {
     private static final String THREE_B = "ppppppptn";
     private static final String THREE_C = "ppppppppp";
     private static final String MEASURE_A = "ppppcpp";
-    private static final String MEASURE_B = "ttpcttl";
+    private static final String MEASURE_B = "ttpctpl";
     private static final String MEASURE_C = "tttttpt";
     private static final String HOLDS_A = "plppllpplccpplp";
     private static final String HOLDS_B = "pllcllppcccpclp";
@@ -129,7 +129,8 @@ public final class PlainGeometry {
             return UNKNOWN;
         }
         sums.reset();
-        Triple quotient = kind == 3 || kind == 4 ? measuredInRing(kind, a, b) : measured(kind, a, b, c);
+        Triple quotient = kind == 3 || kind == 4
+                ? measuredInRing(kind, a, b) : measured(kind, a, b, c);
         if (quotient == null) {
             return NOTHING;
         }
@@ -423,7 +424,7 @@ public final class PlainGeometry {
     private static final class Sums {
         static final int LIMBS = 12;
         static final int BITS = 32 * LIMBS;
-        static final int POOL = 640;
+        static final int POOL = 400;
         static final long LOW = 0xFFFFFFFFL;
 
         private final Whole[] pool;
@@ -438,7 +439,8 @@ public final class PlainGeometry {
             taken = 0;
         }
 
-        Whole fresh() {
+        /** A 0 to be written over. */
+        private Whole fresh() {
             if (taken < 0 || taken >= pool.length) {
                 return new Whole();
             }
@@ -447,52 +449,30 @@ public final class PlainGeometry {
                 made = new Whole();
                 pool[taken] = made;
             }
-            taken++;
-            fill(made, 0);
-            return made;
-        }
-
-        private void fill(Whole a, int with) {
             for (int i = 0; i < LIMBS; i++) {
-                a.limb[i] = with;
+                made.limb[i] = 0;
             }
+            taken++;
+            return made;
         }
 
         Whole of(long v) {
             Whole made = fresh();
-            fill(made, v < 0 ? -1 : 0);
-            made.limb[0] = (int) v;
-            made.limb[1] = (int) (v >> 32);
-            return made;
-        }
-
-        Whole copyOf(Whole a) {
-            Whole made = fresh();
+            long rest = v;
             for (int i = 0; i < LIMBS; i++) {
-                made.limb[i] = a.limb[i];
+                made.limb[i] = (int) rest;
+                rest >>= 32;
             }
             return made;
         }
 
-        Whole plus(Whole a, Whole b) {
-            Whole sum = fresh();
+        private void raise(Whole a, Whole b) {
             long carry = 0;
             for (int i = 0; i < LIMBS; i++) {
                 carry += (a.limb[i] & LOW) + (b.limb[i] & LOW);
-                sum.limb[i] = (int) carry;
+                a.limb[i] = (int) carry;
                 carry >>>= 32;
             }
-            return sum;
-        }
-
-        Whole negated(Whole a) {
-            return minus(fresh(), a);
-        }
-
-        Whole minus(Whole a, Whole b) {
-            Whole rest = copyOf(a);
-            lessen(rest, b);
-            return rest;
         }
 
         private void lessen(Whole a, Whole b) {
@@ -504,47 +484,93 @@ public final class PlainGeometry {
             }
         }
 
-        Whole times(Whole a, Whole b) {
-            Whole product = fresh();
+        private void addProduct(Whole sum, Whole a, Whole b) {
             for (int i = 0; i < LIMBS; i++) {
                 long factor = a.limb[i] & LOW;
                 long carry = 0;
                 for (int j = 0; factor != 0 && i + j < LIMBS; j++) {
-                    carry += (product.limb[i + j] & LOW) + factor * (b.limb[j] & LOW);
-                    product.limb[i + j] = (int) carry;
+                    carry += (sum.limb[i + j] & LOW) + factor * (b.limb[j] & LOW);
+                    sum.limb[i + j] = (int) carry;
                     carry >>>= 32;
                 }
             }
+        }
+
+        Whole negated(Whole a) {
+            Whole made = fresh();
+            lessen(made, a);
+            return made;
+        }
+
+        Whole plus(Whole a, Whole b) {
+            Whole sum = fresh();
+            raise(sum, a);
+            raise(sum, b);
+            return sum;
+        }
+
+        Whole minus(Whole a, Whole b) {
+            Whole rest = fresh();
+            raise(rest, a);
+            lessen(rest, b);
+            return rest;
+        }
+
+        Whole times(Whole a, Whole b) {
+            Whole product = fresh();
+            addProduct(product, a, b);
             return product;
         }
 
         Whole twice(Whole a) {
-            return plus(a, a);
+            Whole sum = fresh();
+            raise(sum, a);
+            raise(sum, a);
+            return sum;
         }
 
         /** a b + c d. */
         Whole added(Whole a, Whole b, Whole c, Whole d) {
-            return plus(times(a, b), times(c, d));
+            Whole sum = fresh();
+            addProduct(sum, a, b);
+            addProduct(sum, c, d);
+            return sum;
         }
 
         /** a b - c d. */
         Whole difference(Whole a, Whole b, Whole c, Whole d) {
-            return minus(times(a, b), times(c, d));
+            Whole rest = fresh();
+            Whole part = fresh();
+            addProduct(rest, a, b);
+            addProduct(part, c, d);
+            lessen(rest, part);
+            return rest;
+        }
+
+        boolean isZero(Whole a) {
+            for (int i = 0; i < LIMBS; i++) {
+                if (a.limb[i] != 0) {
+                    return false;
+                }
+            }
+            return true;
         }
 
         int sign(Whole a) {
             if (a.limb[LIMBS - 1] < 0) {
                 return -1;
             }
-            return bits(a) == 0 ? 0 : 1;
-        }
-
-        boolean isZero(Whole a) {
-            return sign(a) == 0;
+            return isZero(a) ? 0 : 1;
         }
 
         Whole size(Whole a) {
-            return sign(a) < 0 ? negated(a) : copyOf(a);
+            Whole made = fresh();
+            if (sign(a) < 0) {
+                lessen(made, a);
+            } else {
+                raise(made, a);
+            }
+            return made;
         }
 
         int order(Whole a, Whole b) {
@@ -645,15 +671,15 @@ public final class PlainGeometry {
             return u;
         }
 
-        /** a / divisor towards 0; the divisor is above 0, else a itself. */
+        /** a / divisor towards 0; a itself if the divisor is 0. */
         Whole quotient(Whole a, Whole divisor) {
-            if (sign(divisor) <= 0) {
+            if (isZero(divisor)) {
                 return a;
             }
             Whole rest = size(a);
+            Whole part = size(divisor);
             Whole made = fresh();
-            int shift = bits(rest) - bits(divisor);
-            Whole part = copyOf(divisor);
+            int shift = bits(rest) - bits(part);
             doubleOften(part, shift);
             for (int i = shift; i >= 0; i--) {
                 if (order(part, rest) <= 0) {
@@ -662,7 +688,7 @@ public final class PlainGeometry {
                 }
                 halve(part);
             }
-            return sign(a) < 0 ? negated(made) : made;
+            return sign(a) == sign(divisor) ? made : negated(made);
         }
 
         private void setBit(Whole a, int bit) {
@@ -744,7 +770,7 @@ public final class PlainGeometry {
             return Math.abs(up) <= SMALL && down <= SMALL;
         }
 
-        private static long commonDivisor(long a, long b) {
+        static long commonDivisor(long a, long b) {
             long u = Math.abs(a);
             long v = Math.abs(b);
             for (int turn = 0; turn < 200 && v != 0; turn++) {
@@ -997,24 +1023,23 @@ public final class PlainGeometry {
         /** Lowest terms, the last that is not 0 above 0. */
         Triple lowest(Triple t) {
             Whole divisor = sums.commonDivisor(sums.commonDivisor(t.x, t.y), t.w);
-            int sign = sums.sign(t.w);
-            sign = sign != 0 ? sign : sums.sign(t.y);
-            sign = sign != 0 ? sign : sums.sign(t.x);
-            return new Triple(part(t.x, divisor, sign), part(t.y, divisor, sign),
-                    part(t.w, divisor, sign));
+            Whole last = sums.isZero(t.y) ? t.x : t.y;
+            if (sums.sign(sums.isZero(t.w) ? last : t.w) < 0) {
+                divisor = sums.negated(divisor);
+            }
+            return new Triple(sums.quotient(t.x, divisor), sums.quotient(t.y, divisor),
+                    sums.quotient(t.w, divisor));
         }
 
+        /** Lowest terms, K above 0. */
         Ring lowestRing(Ring ring) {
             Whole divisor = sums.commonDivisor(sums.commonDivisor(ring.k, ring.a),
                     sums.commonDivisor(ring.b, ring.c));
-            int sign = sums.sign(ring.k);
-            return new Ring(part(ring.k, divisor, sign), part(ring.a, divisor, sign),
-                    part(ring.b, divisor, sign), part(ring.c, divisor, sign));
-        }
-
-        private Whole part(Whole a, Whole divisor, int sign) {
-            Whole divided = sums.quotient(a, divisor);
-            return sign < 0 ? sums.negated(divided) : divided;
+            if (sums.sign(ring.k) < 0) {
+                divisor = sums.negated(divisor);
+            }
+            return new Ring(sums.quotient(ring.k, divisor), sums.quotient(ring.a, divisor),
+                    sums.quotient(ring.b, divisor), sums.quotient(ring.c, divisor));
         }
 
         Triple middle(Triple p, Triple q) {
@@ -1561,16 +1586,14 @@ public final class PlainGeometry {
             return has(p) ? sizes[p] : 0;
         }
 
-        private boolean hasCorner(int p, int i) {
-            return i >= 0 && i < CORNERS && i < sizeOf(p);
-        }
-
         private int xOf(int p, int i) {
-            return hasCorner(p, i) ? xs[p * CORNERS + i] : 0;
+            int at = p * CORNERS + i;
+            return i < 0 || i >= CORNERS || at < 0 || at >= xs.length ? 0 : xs[at];
         }
 
         private int yOf(int p, int i) {
-            return hasCorner(p, i) ? ys[p * CORNERS + i] : 0;
+            int at = p * CORNERS + i;
+            return i < 0 || i >= CORNERS || at < 0 || at >= ys.length ? 0 : ys[at];
         }
 
         int begin() {
@@ -1823,7 +1846,7 @@ public final class PlainGeometry {
             return yOf(p, wrapAt(i));
         }
 
-        /** Each part behind a side or diagonal i j has one triangle on it, with a corner between. */
+        /** The part behind a side or diagonal i j has one triangle on it, with a corner between. */
         private long triangulations(int p) {
             int size = sizeOf(p);
             for (int apart = 1; apart < size; apart++) {
@@ -2357,7 +2380,7 @@ public final class PlainGeometry {
             return quarters % 4 == 0 || quarters % 4 == 3 ? axis : -axis;
         }
 
-        /** Whether some cell of a frame around the figure cannot be reached from the frame's edge. */
+        /** Whether a cell of a frame around the figure cannot be reached from the frame's edge. */
         private boolean hasHole() {
             for (int i = 0; i < reached.length; i++) {
                 reached[i] = false;

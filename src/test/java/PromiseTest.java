@@ -598,6 +598,9 @@ final class PromiseTest {
         Due.is("b a line", x.measure(2, p, l, p), -1);
         Due.is("b a point", x.measure(3, p, p, p), -1);
         Due.is("c a line", x.measure(5, p, p, l), -1);
+        Due.is("b of 5 a circle", x.measure(5, p, c, p), -1);
+        Due.is("b of 6 a point", x.measure(6, p, p, p), -1);
+        Due.is("b of 3 a line", x.measure(3, p, l, p), -1);
         Due.is("nothing made", x.count(0), numbers);
         int a = x.step(0, number(x, 1, 1021), number(x, 0, 1));
         int b = x.step(0, number(x, 1, 1 << 20), number(x, 0, 1));
