@@ -64,6 +64,10 @@ final class OracleTest {
                 up = random.nextInt(1 << 20) - (1 << 19);
                 down = random.nextInt(3) == 0 ? random.nextInt(1 << 12) + 1 : 1;
             }
+            if (mood == 3 && i > 7) {
+                up = (random.nextBoolean() ? 1 : -1) * ((1 << 20) - random.nextInt(2) * random.nextInt(9));
+                down = (1 << 20) - 1;
+            }
             if (mood == 2 && random.nextInt(4) == 0) {
                 up = random.nextInt(2000) - 1000;
                 down = random.nextInt(60) + 1;

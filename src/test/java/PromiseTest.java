@@ -812,6 +812,8 @@ final class PromiseTest {
         ways(14, 0, 0, 2, 0, 3, 1, 3, 3, 1, 3, 0, 2);
         // a parabola and twelve corners: all of 10 triangles
         ways(16796, 0, 0, 1, 1, 2, 4, 3, 9, 4, 16, 5, 25, 6, 36, 7, 49, 8, 64, 9, 81, 10, 100, 11, 121);
+        tells(new int[] {0, 0, 1, 1, 2, 4, 3, 9, 4, 16, 5, 25, 6, 36, 7, 49, 8, 64, 9, 81, 10, 100, 11, 121},
+                12, 1, 440, 12, 1, 210, 22, 16796, 14762);
         ways(1, 0, 0, 1, 0, 2, 0, 3, 0, 4, 0, 2, 3);
         // an L, a comb, an arrow
         ways(4, 0, 0, 6, 0, 6, 1, 1, 1, 1, 5, 0, 5);
@@ -865,6 +867,14 @@ final class PromiseTest {
         int one = shape(x, -7, 3, -7, 3);
         Due.is("one", x.around(one, 0, 0), -7);
         Due.is("one alone", x.around(one, 1, 0), -2);
+        int twelve = x.polygon();
+        for (int i = 0; i < 12; i++) {
+            x.corner(twelve, 5 * i % 12, (5 * i % 12) * (5 * i % 12));
+        }
+        for (int i = 0; i < 12; i++) {
+            Due.is("of twelve", x.around(twelve, i, 1), i * i);
+        }
+        Due.is("no thirteenth", x.around(twelve, 12, 1), -2);
     }
 
     // ---- POLYNOMIALS
@@ -907,6 +917,18 @@ final class PromiseTest {
         Due.is("- 10", x.coefficient(derived, 0, 0, 0), -10);
         Due.is("3 y", x.coefficient(derived, 0, 1, 0), 3);
         Due.is("no y left", x.coefficient(derived, 1, 1, 0), 0);
+        int u = x.term(1, 0);
+        int v = x.term(1, 1);
+        int four = x.combine(2, x.combine(2, u, u), x.combine(2, v, v));
+        int ten = x.combine(2, x.combine(2, four, four), x.combine(2, u, v));
+        Due.is("x^5 y^5", x.coefficient(ten, 5, 5, 0), 1);
+        Due.is("5 x^4 y^5", x.coefficient(x.combine(4, ten, ten), 4, 5, 0), 5);
+        Due.is("no x^5 y^4", x.coefficient(ten, 5, 4, 0) + x.coefficient(ten, 5, 4, 1), 0);
+        int cube = x.combine(2, u, x.combine(2, u, u));
+        int ninth = x.combine(2, cube, x.combine(2, cube, cube));
+        int tenth = x.combine(2, ninth, x.term(-6, 0));
+        Due.is("-6 x^10", x.coefficient(tenth, 10, 0, 0), -6);
+        Due.is("-60 x^9", x.coefficient(x.combine(4, tenth, u), 9, 0, 0), -60);
         int great = x.term(1 << 26, 0);
         Due.is("sum too great", x.combine(0, great, x.term(1, 0)), -4);
         Due.is("difference too low", x.combine(1, x.term(-1, 0), great), -4);
