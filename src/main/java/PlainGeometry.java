@@ -724,6 +724,8 @@ public final class PlainGeometry {
     /** The NUMBERS. */
     private static final class Numbers {
         static final long SMALL = 1L << 30;
+        // -2^63, the one long whose size is no long.
+        static final long NO_SIZE = 1L << 63;
         static final int ROOM = 200;
         static final int MOST_TERMS = 64;
 
@@ -758,7 +760,7 @@ public final class PlainGeometry {
 
         /** Puts a fraction in lowest terms into up and down; whether it is SMALL. */
         boolean reduce(long over, long under) {
-            if (over == Long.MIN_VALUE || under == Long.MIN_VALUE || under == 0) {
+            if (over == NO_SIZE || under == NO_SIZE || under == 0) {
                 return false;
             }
             long divisor = commonDivisor(over, under);
