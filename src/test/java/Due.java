@@ -2,8 +2,27 @@
 final class Due {
     private static int asked = 0;
     private static int wrong = 0;
+    private static int sentences = 0;
+    private static String sentence = "";
+    private static int askedBefore = 0;
 
     private Due() {
+    }
+
+    /** What follows looks at this sentence of the document: told with each answer not as due. */
+    static void by(String told) {
+        endSentence();
+        sentence = told;
+        sentences++;
+        askedBefore = asked;
+    }
+
+    /** A sentence that nothing was asked of has no test. */
+    private static void endSentence() {
+        if (!sentence.isEmpty() && asked == askedBefore) {
+            wrong++;
+            System.out.println("nothing was asked of [" + sentence + "]");
+        }
     }
 
     static void is(String call, long got, long want) {
@@ -11,7 +30,8 @@ final class Due {
         if (got != want) {
             wrong++;
             if (wrong < 60) {
-                System.out.println(call + " answered " + got + ", due is " + want);
+                String told = sentence.isEmpty() ? "" : "[" + sentence + "] ";
+                System.out.println(told + call + " answered " + got + ", due is " + want);
             }
         }
     }
@@ -20,12 +40,18 @@ final class Due {
         is(call, Double.doubleToLongBits(got), Double.doubleToLongBits(want));
     }
 
+    static void is(String call, boolean got, boolean want) {
+        is(call, got ? 1 : 0, want ? 1 : 0);
+    }
+
     static void is(String call, boolean got) {
         is(call, got ? 1 : 0, 1);
     }
 
     static void end() {
-        System.out.println(asked + " answers, " + wrong + " not as due");
+        endSentence();
+        String told = sentences == 0 ? "" : " to " + sentences + " sentences";
+        System.out.println(asked + " answers" + told + ", " + wrong + " not as due");
         if (wrong != 0 || asked == 0) {
             System.exit(1);
         }
