@@ -72,6 +72,16 @@ final class EdgeCellsTest {
                 tiled(3, 3, cell(x, y), !isEven ? 0 : x == 1 ? 2 : 4);
             }
         }
+        for (int cells = 0; cells < 8; cells++) {
+            long upright = cells & 1 | (cells & 2L) << 7 | (cells & 4L) << 14;
+            int due = cells == 0 || cells == 7 ? 1 : 0;
+            laid(3, 1, cells, due);
+            laid(1, 3, upright, due);
+            tiled(3, 1, cells, cells == 1 || cells == 4 || cells == 7 ? 1 : 0);
+            tiled(1, 3, upright, cells == 1 || cells == 4 || cells == 7 ? 1 : 0);
+            tiled(3, 3, cells | 7L << 8 | 7L << 16, cells == 1 || cells == 4 || cells == 7 ? 1 : 0);
+            laid(3, 3, upright | 6L | 6L << 8 | 6L << 16, due);
+        }
         Due.by("bit 8 y + x: the last one, 63, is a cell too");
         tiled(8, 8, cell(7, 7), 0);
         tiled(8, 8, cell(7, 7) | cell(0, 0), 0);

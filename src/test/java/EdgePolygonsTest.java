@@ -113,6 +113,8 @@ final class EdgePolygonsTest {
         tells(SIMPLE, 0, 0, 0, 4, -2, 4, 2, 0, 0, -4, 2, -4, -2);
         tells(SIMPLE, 0, 0, 0, 3, 3, 0, 0);
         tells(SIMPLE, 0, 2, 2, 2, 2, 2, 2);
+        tells(SIMPLE, 0, 0, 0, 0, 0, 3, 3);
+        tells(SIMPLE, 0, 0, 0, 3, 3, 3, 3);
         Due.by("SIMPLE: no two sides have a place in common");
         tells(SIMPLE, 0, 0, 0, 4, 4, 4, 0, 0, 4);
         tells(SIMPLE, 1, 0, 0, 4, 0, 4, 4, 0, 4);
@@ -126,16 +128,44 @@ final class EdgePolygonsTest {
         tells(SIMPLE, 1, 0, 0, 1000, 1000, 1000, 999, -1, -1, -1000, 1000);
         tells(SIMPLE, 0, 0, 0, 1000, 1000, 1000, 999, -1, 0, -1000, 1000);
         tells(SIMPLE, 1, 0, 0, 1000, 1000, 1000, 999, 1, 0, 0, -1000);
+        // each corner is beside the other side by the least that there is
+        tells(SIMPLE, 0, 0, 0, 2, 1, 1, 1, 1, 0);
+        tells(SIMPLE, 0, 0, 0, 1, 2, 1, 1, 0, 1);
+        tells(SIMPLE, 0, 1, 1, 1, 0, 0, 0, 2, 1);
+        tells(SIMPLE, 0, 1, 1, 0, 1, 0, 0, 1, 2);
         Due.by("SIMPLE: but neighbours their corner");
         tells(SIMPLE, 0, 0, 0, 4, 0, 2, 0);
-        tells(SIMPLE, 0, 0, 0, 2, 2, 4, 4);
+        flat(1, 0, 3, 0);
+        flat(-1, 0, -5, 0);
+        flat(0, 1, 0, 4);
+        flat(0, -2, 0, -3);
+        flat(1, 1, 3, 3);
+        flat(2, -1, 4, -2);
+        flat(-1, 2, -3, 6);
         tells(SIMPLE, 0, 0, 0, 4, 0, 2, 0, 2, 4);
         tells(SIMPLE, 0, 2, 0, 2, 4, 0, 0, 4, 0);
         tells(SIMPLE, 0, 4, 0, 2, 0, 2, 4, 0, 0);
         tells(SIMPLE, 0, 0, 0, 4, 0, 4, 4, 4, 2, 0, 4);
+        tells(SIMPLE, 1, 0, 0, 1, 0, 4, 0, 2, 4);
+        tells(SIMPLE, 1, 0, 0, 3, 0, 4, 0, 2, 4);
+        tells(SIMPLE, 1, 0, 0, 0, 1, 0, 4, 2, 2);
+        tells(SIMPLE, 1, 0, 0, 0, 3, 0, 4, 2, 2);
+        tells(SIMPLE, 1, 0, 0, 1, 2, 4, 8, 2, 9);
         tells(SIMPLE, 1, 0, 0, 2, 0, 4, 0, 2, 4);
         tells(SIMPLE, 1, 2, 0, 4, 0, 2, 4, 0, 0);
         tells(SIMPLE, 1, 4, 0, 2, 4, 0, 0, 2, 0);
+    }
+
+    /** Three corners on one line, from 5, 7 to a nearer and a farther one: in each order. */
+    private static void flat(int x, int y, int farX, int farY) {
+        int[][] at = {{5, 7}, {5 + x, 7 + y}, {5 + farX, 7 + farY}};
+        for (int first = 0; first < 3; first++) {
+            for (int turn = 1; turn < 3; turn++) {
+                int[] second = at[(first + turn) % 3];
+                int[] third = at[(first + 2 * turn) % 3];
+                tells(SIMPLE, 0, at[first][0], at[first][1], second[0], second[1], third[0], third[1]);
+            }
+        }
     }
 
     private static void area() {
@@ -181,6 +211,9 @@ final class EdgePolygonsTest {
         tells(CONVEX, 0, 0, 4, 1, 1, 4, 0, 0, 0);
         tells(CONVEX, 0, 0, 0, 500, 1, 1000, 0, 500, 1000);
         tells(CONVEX, 1, 0, 0, 500, -1, 1000, 0, 500, 1000);
+        // one corner turns the other way by the least that there is
+        tells(CONVEX, 0, 0, 2, 1, 1, 3, 0, 0, 0);
+        tells(CONVEX, 0, 0, 0, 3, 0, 1, 1, 0, 2);
         tells(CONVEX, 0, 0, 0, 4, 4, 4, 0, 0, 4);
         // it turns to the left at every corner, twice around
         tells(CONVEX, 0, 0, 5, -3, -4, 5, 2, -5, 2, 3, -4);
@@ -222,24 +255,42 @@ final class EdgePolygonsTest {
         tells(TRIANGULATIONS, -3, 1, 1, 3, 3, 5, 5);
         tells(TRIANGULATIONS, -3, 0, 0, 4, 4, 4, 0, 0, 4);
         Due.by("TRIANGULATION: as many diagonals as can be: corners less 3");
-        tells(TRIANGULATIONS, 1, 0, 0, 4, 0, 0, 4);
-        tells(TRIANGULATIONS, 1, 0, 4, 4, 0, 0, 0);
-        tells(TRIANGULATIONS, 2, 0, 0, 4, 0, 4, 4, 0, 4);
-        tells(TRIANGULATIONS, 5, 0, 0, 4, 0, 5, 3, 2, 5, -1, 3);
-        tells(TRIANGULATIONS, 16796, 0, 0, 1, 1, 2, 4, 3, 9, 4, 16, 5, 25, 6, 36, 7, 49, 8, 64, 9, 81, 10, 100, 11, 121);
-        tells(TRIANGULATIONS, 16796, 11, 121, 10, 100, 9, 81, 8, 64, 7, 49, 6, 36, 5, 25, 4, 16, 3, 9, 2, 4, 1, 1, 0, 0);
+        triangulated(1, 0, 0, 4, 0, 0, 4);
+        triangulated(1, 0, 4, 4, 0, 0, 0);
+        triangulated(2, 0, 0, 4, 0, 4, 4, 0, 4);
+        triangulated(5, 0, 0, 4, 0, 5, 3, 2, 5, -1, 3);
+        triangulated(16796, 0, 0, 1, 1, 2, 4, 3, 9, 4, 16, 5, 25, 6, 36, 7, 49, 8, 64, 9, 81, 10, 100, 11, 121);
+        triangulated(16796, 11, 121, 10, 100, 9, 81, 8, 64, 7, 49, 6, 36, 5, 25, 4, 16, 3, 9, 2, 4, 1, 1, 0, 0);
         Due.by("TRIANGULATION: diagonals that lie within it");
-        tells(TRIANGULATIONS, 1, 0, 0, 4, 0, 1, 1, 0, 4);
-        tells(TRIANGULATIONS, 1, 1, 1, 0, 4, 0, 0, 4, 0);
-        tells(TRIANGULATIONS, 1, 0, 4, 1, 1, 4, 0, 0, 0);
-        tells(TRIANGULATIONS, 2, 0, 0, 8, 0, 8, 4, 6, 1, 4, 4, 2, 1, 0, 4);
-        tells(TRIANGULATIONS, 1, 0, 0, 9, 0, 9, 9, 8, 1);
+        triangulated(1, 0, 0, 4, 0, 1, 1, 0, 4);
+        triangulated(1, 1, 1, 0, 4, 0, 0, 4, 0);
+        triangulated(1, 0, 4, 1, 1, 4, 0, 0, 0);
+        triangulated(2, 0, 0, 8, 0, 8, 4, 6, 1, 4, 4, 2, 1, 0, 4);
+        triangulated(1, 0, 0, 9, 0, 9, 9, 8, 1);
+        // the middle of the way from 0, 0 to 10, 0 is within, but sides cut the way elsewhere
+        triangulated(5, 0, 0, 5, -5, 10, 0, 10, 10, 8, -1, 7, 10, 0, 10);
+        triangulated(2, 0, 0, 10, 0, 10, 4, 2, 2, 10, 8, 0, 8);
+        triangulated(5, 0, 0, 6, -6, 12, 0, 12, 9, 9, -2, 8, 9, 4, 9, 3, -2, 0, 9);
         Due.by("TRIANGULATION: (but their ends; no corner on them)");
-        tells(TRIANGULATIONS, 1, 0, 0, 2, 0, 4, 0, 2, 4);
-        tells(TRIANGULATIONS, 1, 0, 0, 1, 0, 2, 0, 3, 0, 4, 0, 2, 3);
-        tells(TRIANGULATIONS, 1, 0, 0, 4, 0, 2, 2, 0, 4);
+        triangulated(1, 0, 0, 2, 0, 4, 0, 2, 4);
+        triangulated(1, 0, 0, 1, 0, 2, 0, 3, 0, 4, 0, 2, 3);
+        triangulated(1, 0, 0, 4, 0, 2, 2, 0, 4);
         // the way from 0, 0 to 4, 4 has the corner 2, 2 on it
-        tells(TRIANGULATIONS, 2, 0, 0, 4, 0, 4, 4, 2, 2, 0, 4, 0, 3);
+        triangulated(2, 0, 0, 4, 0, 4, 4, 2, 2, 0, 4, 0, 3);
+    }
+
+    /** From each corner on, both ways around, and moved: the same. */
+    private static void triangulated(long due, int... places) {
+        int many = places.length / 2;
+        for (int turn = 0; turn < 2 * many; turn++) {
+            int[] moved = new int[places.length];
+            for (int i = 0; i < many; i++) {
+                int from = turn < many ? (turn + i) % many : (2 * many + turn - i) % many;
+                moved[2 * i] = places[2 * from] + 7 * turn;
+                moved[2 * i + 1] = places[2 * from + 1] - 11 * turn;
+            }
+            tells(TRIANGULATIONS, due, moved);
+        }
     }
 
     private static void greatest() {

@@ -12,6 +12,7 @@ final class EdgePolynomialsTest {
         products();
         degrees();
         putIn();
+        putInAgain();
         putInCoefficients();
         putInDegrees();
         derivative();
@@ -249,6 +250,25 @@ final class EdgePolynomialsTest {
         isPut(of(1, 2, 0, 0, 7, 0, 0, 0), nothing, 7, 0, 0, 0);
     }
 
+    /** What one call has put together is none of the next one's. */
+    private static void putInAgain() {
+        Due.by("18 3 from 0, with 1 as the power: each time");
+        PlainGeometry x = new PlainGeometry();
+        int square = Make.sum(x, 1, 2, 0, 0, 4, 1, 0, 0);
+        int b = Make.sum(x, 1, 0, 1, 0, 3, 0, 0, 0);
+        int first = x.combine(3, square, b);
+        int second = x.combine(3, square, b);
+        Due.is("again", x.same(first, second), 1);
+        Due.is("y y", x.coefficient(second, 0, 2, 0), 1);
+        Due.is("10 y", x.coefficient(second, 0, 1, 0), 10);
+        Due.is("21", x.coefficient(second, 0, 0, 0), 21);
+        Due.is("a number", x.same(x.combine(3, x.term(5, NONE), b), x.term(5, NONE)), 1);
+        Due.is("itself", x.same(x.combine(3, x.term(1, 0), b), b), 1);
+        Due.by("18 3 what a has with it (without that)");
+        isPut(of(1, 0, 10, 0, 1, 1, 0, 0), of(1, 0, 0, 0), 1, 0, 10, 0, 1, 0, 0, 0);
+        isPut(of(1, 1, 9, 0, 1, 2, 0, 0), of(1, 0, 0, 0), 1, 0, 9, 0, 1, 0, 0, 0);
+    }
+
     private static void putInCoefficients() {
         Due.by("18 -4 (also a coefficient of anything told here too great): the power");
         long[] root = of(1 << 13, 0, 0, 0);
@@ -310,7 +330,9 @@ final class EdgePolynomialsTest {
         Due.is("of a number", x.same(x.combine(4, x.term(5, NONE), a), none), 1);
         PlainGeometry y = new PlainGeometry();
         int tenth = power(y, 0, 10);
-        Due.is("10 x^9", y.coefficient(y.combine(4, tenth, tenth), 9, 0, 0), 10);
+        int ninth = y.combine(4, y.combine(2, tenth, y.term(1, NONE)), tenth);
+        Due.is("10 x^9", y.coefficient(ninth, 9, 0, 0), 10);
+        Due.is("no x^10", y.coefficient(ninth, 10, 0, 0), 0);
         Due.by("18 4: -4 a coefficient too great");
         int square = power(y, 0, 2);
         int half = y.combine(2, square, y.term(MOST / 2, NONE));
@@ -367,6 +389,24 @@ final class EdgePolynomialsTest {
             {Make.TINY, Make.TINY, 0}, {5, 5, 0}};
         for (int[] e : others) {
             Due.is(e[0] + ", " + e[1] + ", " + e[2], x.coefficient(all, e[0], e[1], e[2]), 0);
+        }
+        PlainGeometry full = new PlainGeometry();
+        int one = Make.sum(full, 1, 0, 0, 0, 1, 1, 0, 0, 1, 0, 1, 0, 1, 0, 0, 1);
+        int two = full.combine(2, one, one);
+        int four = full.combine(2, two, two);
+        int ten = full.combine(2, full.combine(2, four, four), two);
+        Due.is("2, 3, 4 of 10", full.coefficient(ten, 2, 3, 4), 12600);
+        Due.is("5, 5, 0", full.coefficient(ten, 5, 5, 0), 252);
+        Due.is("0, 0, 10", full.coefficient(ten, 0, 0, 10), 1);
+        for (int i = 0; i <= 11; i++) {
+            for (int j = 0; j <= 11 - i; j++) {
+                Due.is(i + ", " + j + ", the next", full.coefficient(ten, i, j, 11 - i - j), 0);
+                Due.is(i + ", " + j + ", -1", full.coefficient(ten, i, j, -1), 0);
+            }
+        }
+        for (int[] e : others) {
+            boolean isOne = Math.min(e[0], Math.min(e[1], e[2])) >= 0 && (long) e[0] + e[1] + e[2] <= 10;
+            Due.is("full " + e[0] + ", " + e[1] + ", " + e[2], full.coefficient(ten, e[0], e[1], e[2]) != 0, isOne);
         }
         PlainGeometry y = Stock.made();
         for (int none : UNKNOWN) {

@@ -347,6 +347,15 @@ final class EdgeStatementsTest {
         is(x, 14, o, p, one, Make.part(x, -2001, 1000, 0, 1), 0);
         is(x, 14, Stock.EAST, Stock.NORTH, Stock.ALONG, Make.far(x, -2, 1), 1);
         is(x, 14, Stock.EAST, Stock.NORTH, Stock.ALONG, Stock.ACROSS, 0);
+        int above = Make.point(x, 0, 4);
+        int low = Make.point(x, 0, 1);
+        int below = Make.point(x, 0, -2);
+        is(x, 14, o, above, low, below, 1);
+        is(x, 14, o, low, above, below, 0);
+        is(x, 14, o, above, low, Make.part(x, 0, 1, -2001, 1000), 0);
+        is(x, 14, o, above, Make.point(x, 0, 2), Stock.NORTH, 1);
+        is(x, 14, o, above, low, Stock.NORTH, 0);
+        is(x, 14, Make.point(x, 3, 0), Make.point(x, 3, 4), Make.point(x, 3, 1), Make.point(x, 3, -2), 1);
         Due.by("STATEMENT 14 of one LINE");
         is(x, 14, o, p, one, Stock.Q, 0);
         is(x, 14, o, p, Stock.Q, minus, 0);

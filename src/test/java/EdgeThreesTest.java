@@ -155,10 +155,16 @@ final class EdgeThreesTest {
         isPoint(x, 5, Stock.P, Stock.ORIGIN, Make.point(x, 3, 0), 6, 0, 1);
         isPoint(x, 5, Stock.ORIGIN, Stock.P, Make.point(x, 8, 0), 8, 0, 3);
         isPoint(x, 5, Stock.ORIGIN, Stock.Q, Make.point(x, 4, 2), 4, 2, 3);
+        int above = Make.point(x, 0, 4);
+        isPoint(x, 5, Stock.ORIGIN, above, Make.point(x, 0, 1), 0, -2, 1);
+        isPoint(x, 5, above, Make.point(x, 0, -2), Stock.ORIGIN, 0, -8, 1);
+        isPoint(x, 5, Make.point(x, 3, 0), Make.point(x, 3, 4), Make.point(x, 3, 1), 3, -2, 1);
+        isPoint(x, 5, Make.point(x, 0, 3), Make.point(x, 4, 3), Make.point(x, 1, 3), -2, 3, 1);
         Due.by("THREE 5 (it may be FAR");
         isPoint(x, 5, Stock.ORIGIN, Stock.P, Make.point(x, 2, 0), 1, 0, 0);
         isPoint(x, 5, Stock.P, Stock.ORIGIN, Make.point(x, 2, 0), 1, 0, 0);
         isPoint(x, 5, Stock.ORIGIN, Stock.Q, Make.part(x, 1, 1, 1, 2), 2, 1, 0);
+        isPoint(x, 5, Stock.ORIGIN, above, Make.point(x, 0, 2), 0, 1, 0);
         Due.by("THREE 5 (a, b not the same, c on their LINE, not a or b; else -3)");
         refuses(5, Stock.P, Stock.P, Stock.Q, -3);
         refuses(5, Stock.ORIGIN, Stock.ORIGIN_AGAIN, Stock.P, -3);
@@ -304,6 +310,10 @@ final class EdgeThreesTest {
         Due.is("n not SMALL", x.measure(2, Stock.ORIGIN, Make.point(x, ROOT, 1), p), -4);
         isNumber(x, 2, Stock.ORIGIN, Make.part(x, 0, 1, 1, ROOT), p, 1, 1L << 30);
         Due.is("d not SMALL", x.measure(2, Stock.ORIGIN, Make.part(x, 0, 1, 1, ROOT + 1), p), -4);
+        // 2^64 + 1 over 2^24: its low bits alone would be SMALL
+        Due.is("n beyond a long", x.measure(2, Make.point(x, SMALL, 0), Make.part(x, 0, 1, 1, 4096), p), -4);
+        // 1 over 2^80: d beyond a long
+        Due.is("d beyond a long", x.measure(2, Make.part(x, 1, SMALL, 0, 1), Make.part(x, 1, SMALL - 1, 0, 1), p), -4);
         refusesToMeasure(2, p, Stock.EAST, p, -3);
         refusesToMeasure(2, Stock.EAST, p, p, -3);
         refusesToMeasure(2, Stock.EAST, Stock.NORTH, p, -3);
