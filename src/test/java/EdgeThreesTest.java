@@ -312,7 +312,10 @@ final class EdgeThreesTest {
         Due.is("d not SMALL", x.measure(2, Stock.ORIGIN, Make.part(x, 0, 1, 1, ROOT + 1), p), -4);
         // 2^64 + 1 over 2^24: its low bits alone would be SMALL
         Due.is("n beyond a long", x.measure(2, Make.point(x, SMALL, 0), Make.part(x, 0, 1, 1, 4096), p), -4);
-        // 1 over 2^80: d beyond a long
+        // 1 over a square of 79 bits: its low 64 bits alone, 360846217, would be SMALL
+        int left = Make.part(x, 430798, 818385, 0, 1);
+        Due.is("d beyond a long", x.measure(2, left, Make.part(x, 314233, 596947, 0, 1), p), -4);
+        // 1 over a square of 80 bits
         Due.is("d beyond a long", x.measure(2, Make.part(x, 1, SMALL, 0, 1), Make.part(x, 1, SMALL - 1, 0, 1), p), -4);
         refusesToMeasure(2, p, Stock.EAST, p, -3);
         refusesToMeasure(2, Stock.EAST, p, p, -3);
