@@ -994,7 +994,10 @@ public final class PlainGeometry {
 
         /** 0 if three POINTS have a LINE in common, or three LINES a POINT. */
         Whole determinant(Triple p, Triple q, Triple r) {
-            return dot(cross(p, q), r);
+            Whole x = sums.difference(p.y, q.w, p.w, q.y);
+            Whole y = sums.difference(p.w, q.x, p.x, q.w);
+            Whole w = sums.difference(p.x, q.y, p.y, q.x);
+            return sums.plus(sums.added(x, r.x, y, r.y), sums.times(w, r.w));
         }
 
         Triple common(Triple p, Triple q) {
@@ -1007,7 +1010,9 @@ public final class PlainGeometry {
         }
 
         boolean areSame(Triple p, Triple q) {
-            return isNull(cross(p, q));
+            return sums.areEqual(sums.times(p.x, q.y), sums.times(p.y, q.x))
+                    && sums.areEqual(sums.times(p.x, q.w), sums.times(p.w, q.x))
+                    && sums.areEqual(sums.times(p.y, q.w), sums.times(p.w, q.y));
         }
 
         boolean isFar(Triple p) {
@@ -1144,12 +1149,13 @@ public final class PlainGeometry {
 
         /** From the foot of the middle on the line, by the root of the depth both ways along it. */
         Triple crossing(Triple line, Ring ring, boolean second) {
-            Whole root = hasAllFar(line) ? null : sums.rootOf(depth(line, ring));
+            Whole atMiddle = twiceAtMiddle(line, ring);
+            Whole square = sums.added(line.x, line.x, line.y, line.y);
+            Whole depth = sums.difference(spread(ring), square, atMiddle, atMiddle);
+            Whole root = hasAllFar(line) ? null : sums.rootOf(depth);
             if (root == null) {
                 return null;
             }
-            Whole atMiddle = twiceAtMiddle(line, ring);
-            Whole square = sums.added(line.x, line.x, line.y, line.y);
             Whole footX = sums.negated(sums.added(ring.a, square, atMiddle, line.x));
             Whole footY = sums.negated(sums.added(ring.b, square, atMiddle, line.y));
             Whole wayX = sums.times(root, line.y);
@@ -1355,7 +1361,7 @@ public final class PlainGeometry {
         Whole inEquation(Triple p, Ring ring) {
             Whole linear = sums.plus(sums.added(ring.a, p.x, ring.b, p.y),
                     sums.times(ring.c, p.w));
-            return sums.added(ring.k, ownSquare(p), linear, p.w);
+            return sums.added(ring.k, sums.added(p.x, p.x, p.y, p.y), linear, p.w);
         }
 
         private Triple quotient(Whole up, Whole down) {
@@ -1459,6 +1465,8 @@ public final class PlainGeometry {
                     return ringsTouch(things.ringOf(a), things.ringOf(b));
                 case 10:
                     return areRingsSquare(things.ringOf(a), things.ringOf(b));
+                case 11:
+                    return turnsLeft(things.tripleOf(a), things.tripleOf(b), things.tripleOf(c));
                 case 12:
                     return isWithin(things.tripleOf(a), things.ringOf(b));
                 case 13:
@@ -1481,8 +1489,6 @@ public final class PlainGeometry {
                 case 5:
                     return !plane.hasAllFar(p) && !plane.hasAllFar(q)
                             && sums.isZero(sums.added(p.x, q.x, p.y, q.y));
-                case 11:
-                    return turnsLeft(p, q, things.tripleOf(c));
                 default:
                     return sums.isZero(plane.determinant(p, q, things.tripleOf(c)));
             }
